@@ -1,7 +1,7 @@
 import java.util.Arrays;
 import java.util.NoSuchElementException;
 
-/** A town in which one pays in ladders, by the rung. The document's promises are told in README.md. */
+/** A town in which one pays in ladders, by the rung. What each call promises stands in ../shared/DOC.md. */
 public final class RungMoney {
     public static final int NONE = -1;
 

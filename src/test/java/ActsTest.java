@@ -5,6 +5,7 @@ public final class ActsTest {
         saw();
         splice();
         climb();
+        tallest();
         burn();
         paint();
         taxes();
@@ -107,6 +108,34 @@ public final class ActsTest {
         x.burn(1);
         Check.due("gone", x.climb(0, 1), -2);
         Check.due("gone, no such man", x.climb(2, 1), -1);
+    }
+
+    /** One that has as many rungs as there may be, all sound. */
+    private static RungMoney tallest(int rot) {
+        RungMoney x = Check.townOf("man a;ladder a ssssssssssss;ladder a ssssssssssss;ladder a ssssssss;ladder a s;rot " + rot
+                + ";");
+        x.splice(0, 1);
+        x.splice(0, 2);
+        return x;
+    }
+
+    private static void tallest() {
+        RungMoney x = tallest(12);
+        Check.row("the tallest", new int[] {x.climb(0, 0), x.ladder(0, 4), x.man(0, 5), x.bear(), x.price(0, 31), x.cut()},
+                32, 32, 32, 9, 101, 31);
+        x.winter(1);
+        Check.rungs(x, 0, Check.repeat("r", 32));
+        Check.row("its top is painted", new int[] {x.paint(0, 31), x.rung(0, 31), x.ladder(0, 2), x.paint(0, 32)}, 0, 2, 1, -1);
+        RungMoney y = tallest(6);
+        y.winter(7);
+        int seed = 7;
+        String want = "";
+        for (int k = 0; k < 33; k++) {
+            seed = seed * 1103515245 + 12345;
+            want += (seed >>> 8) % 12 < 6 ? 'r' : 's';
+        }
+        Check.rungs(y, 0, want.substring(0, 32));
+        Check.rungs(y, 3, want.substring(32));
     }
 
     private static void burn() {

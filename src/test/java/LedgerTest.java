@@ -23,6 +23,9 @@ public final class LedgerTest {
         Check.rungs(x, 1, "ss");
         Check.row("behind it", new int[] {x.now(0), x.now(2), x.now(3), x.now(7), x.man(0, 6), x.ladder(1, 0),
             x.ladder(1, 5)}, 1, 2, 2, 1, 1, 1, 3);
+        RungMoney y = Check.townOf("man a;man b;ladder b sp;ladder b s;debt b a 3;");
+        Check.due("he who pays", Check.ledger(y, 1, "b pays 1 a;b pays 0 a;"), -1);
+        Check.row("behind it", new int[] {y.man(0, 6), y.man(1, 6), y.debt(1, 0), y.man(0, 0)}, 0, 2, 0, 3);
         Check.due("as far as it is not wrong", Check.ledger(x, 1, "taxes;burns 0;taxes;"), 1);
         Check.row("told", told(x), 41, 1, 2, 2);
         Check.row("behind it", new int[] {x.now(2), x.now(1)}, 4, 2);
@@ -131,7 +134,9 @@ public final class LedgerTest {
         fault("saws 16 1;", 5, 2);
         fault("saws 15 32;", 8, 2);
         fault("splices 0 16;", 10, 2);
+        fault("splices 16 0;", 8, 2);
         fault("paints 0 32;", 9, 2);
+        fault("paints 16 0;", 7, 2);
         fault("a pays 16 b;", 7, 2);
         fault("a climbs 16;", 9, 2);
         fault("z climbs 1;", 0, 3);

@@ -71,6 +71,8 @@ public final class QuestionsTest {
         x.burn(1);
         Check.row("behind a fire", new int[] {x.bear(), x.height(5), x.height(7), x.height(8)}, 5, 2, 2, -1);
         RungMoney full = Check.townOf("man a;" + Check.repeat("ladder a ssssssssssss;", 16));
+        RungMoney low = Check.townOf("man a;ladder a r;ladder a s;ladder a s;");
+        Check.row("one rung each", new int[] {low.bear(), low.height(2), low.height(3)}, 6, 2, -1);
         Check.row("all of them", new int[] {full.bear(), full.height(192), full.height(193)}, 65535, 16, -1);
     }
 
@@ -106,6 +108,7 @@ public final class QuestionsTest {
         Check.due("none is painted", Check.townOf("man a;ladder a sr;ladder a rr;").suspect(), -1);
         Check.due("half and two thirds", Check.townOf("man a;ladder a spr;ladder a pps;ladder a sssp;").suspect(), 1);
         Check.due("of like ones the first", Check.townOf("man a;ladder a s;ladder a spsp;ladder a ps;").suspect(), 1);
+        Check.due("the first of all", Check.townOf("man a;ladder a ps;ladder a ss;").suspect(), 0);
         Check.due("rotten ones do not count", Check.townOf("man a;ladder a pps;ladder a rrrp;").suspect(), 1);
         RungMoney x = Check.townOf("man a;ladder a p;ladder a ps;");
         x.burn(0);
@@ -189,5 +192,9 @@ public final class QuestionsTest {
         Check.row("no such one", new int[] {x.cheapest(0), x.cheapest(33), x.cheapest(-1), x.cheapest(32)}, -1, -1, -1, -1);
         x.burn(1);
         Check.due("behind a fire", x.cheapest(1), 4);
+        RungMoney tall = Check.townOf("man a;ladder a ssssssssssss;ladder a ssssssssssss;ladder a ssssssss;");
+        tall.splice(0, 1);
+        tall.splice(0, 2);
+        Check.row("the tallest", new int[] {tall.cheapest(32), tall.cheapest(1), tall.height(32)}, 32, 32, 1);
     }
 }

@@ -56,6 +56,8 @@ public final class SentenceTest {
     private static void stays() {
         RungMoney x = Check.townOf(TOWN);
         Check.row("without a sentence", new int[] {x.said(-1), x.said(0)}, -1, -1);
+        Check.sentence(x, "gone");
+        Check.due("said", x.said(-1), 0);
         Check.sentence(x, "of b");
         Check.due("said", x.said(-1), 3);
         Check.due("a fault", Check.sentence(x, "of c"), -4);
@@ -116,6 +118,7 @@ public final class SentenceTest {
         Check.due("twenty", Check.sentence(x, twenty), 20);
         Check.due("twenty", Check.sentence(x, "gone" + Check.repeat(" and gone", 19)), 20);
         fault(twenty + " or gone", 160, 4);
+        fault("gone" + Check.repeat(" and gone", 20), 180, 4);
         fault(twenty + " or x", 160, 1);
         fault(twenty + " or (", 160, 4);
         fault("gone" + Check.repeat(" or gone", 18) + " or not gone", 156, 4);

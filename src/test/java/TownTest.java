@@ -164,7 +164,30 @@ public final class TownTest {
         fault("man" + Check.repeat(" ", 920), 900, 1);
         fault(Check.repeat(" ", 900) + ";", 900, 1);
         fault(Check.repeat(" ", 899) + ";;", 899, 1);
+        fault("rot 1;" + Check.repeat(" ", 894) + "rot 1;", 900, 1);
+        fault("rot 1;" + Check.repeat(" ", 893) + "rot 1;", 899, 3);
         well(Check.repeat(" ", 900), 0);
+    }
+
+    /** Judging, drawing and striking may leave nothing of the old town in the new one. */
+    private static void nothingIsLeft() {
+        RungMoney x = Check.townOf("man m;man q;ladder m ssss;ladder m s;debt m q 5;debt q m 2;rot 4;");
+        x.pay(0, 1, 1);
+        Check.ledger(x, 0, "saws 0 1;taxes;winter 3;");
+        x.strike();
+        x.odds(0, 1, 9, 1);
+        Check.town(x, "man a;man b;ladder b p;");
+        for (int what = 0; what < 8; what++) {
+            Check.due("now(" + what + ")", x.now(what), new int[] {0, 1, 0, 0, 1, 0, 1, 0}[what]);
+        }
+        Check.row("the rest", new int[] {x.debt(0, 1), x.debt(1, 0), x.man(0, 6), x.man(1, 6), x.count(1), x.count(2)},
+                0, 0, 0, 0, 1, 1);
+        String debts = "man a;man b;man c;man d;";
+        for (int i = 0; i < 12; i++) {
+            debts += "debt " + "abcd".charAt(i / 3) + " " + "abcd".charAt(i % 3 + (i % 3 >= i / 3 ? 1 : 0)) + " 1;";
+        }
+        Check.row("a town of many debts, twice", new int[] {Check.town(x, debts), Check.town(x, debts)}, 16, 16);
+        Check.row("a town with rot, twice", new int[] {Check.town(x, "rot 3;"), Check.town(x, "rot 2;")}, 1, 1);
     }
 
     private static void whatStays() {
@@ -182,6 +205,7 @@ public final class TownTest {
         Check.due("undo behind a new town", x.undo(), -1);
         Check.due("payments", x.man(0, 6), 0);
 
+        nothingIsLeft();
         Check.put(x, "rot 13;");
         x.town();
         Check.due("fault", x.fault(), 2);

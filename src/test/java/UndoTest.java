@@ -4,6 +4,7 @@ public final class UndoTest {
 
     public static void main(String[] args) {
         everyAct();
+        oneByOne();
         whatIsNoAct();
         eightAtMost();
         images();
@@ -63,6 +64,65 @@ public final class UndoTest {
         undone("ledger", x, before, true);
         Check.ledger(x, 1, "");
         undone("an empty ledger that was lived", x, before, false);
+    }
+
+    private static void oneByOne() {
+        RungMoney x = Check.townOf(TOWN);
+        String[] before = new String[8];
+        for (int i = 0; i < 8; i++) {
+            before[i] = all(x);
+            Check.due("an act", actAt(x, i), 0);
+        }
+        for (int i = 7; i >= 0; i--) {
+            Check.due("undo", x.undo(), i);
+            Check.due("all is as ahead of act " + i, all(x).equals(before[i]), true);
+        }
+        for (int i = 0; i < 6; i++) {
+            before[i] = all(x);
+            Check.due("an act", otherActAt(x, i), 0);
+        }
+        for (int i = 5; i >= 0; i--) {
+            Check.due("undo", x.undo(), i);
+            Check.due("all is as ahead of act " + i, all(x).equals(before[i]), true);
+        }
+    }
+
+    private static int actAt(RungMoney x, int i) {
+        switch (i) {
+            case 0:
+                return x.saw(0, 3);
+            case 1:
+                return x.pay(0, 1, 1);
+            case 2:
+                return x.splice(1, 2);
+            case 3:
+                return x.climb(0, 3) - 1;
+            case 4:
+                return x.paint(1, 0);
+            case 5:
+                return x.winter(4);
+            case 6:
+                return x.taxes();
+            default:
+                return x.burn(1);
+        }
+    }
+
+    private static int otherActAt(RungMoney x, int i) {
+        switch (i) {
+            case 0:
+                return x.taxes();
+            case 1:
+                return x.strike() - 8;
+            case 2:
+                return x.climb(0, 1);
+            case 3:
+                return Check.ledger(x, 1, "paints 0 2;") + 1;
+            case 4:
+                return x.drawn(1, 5) - 1;
+            default:
+                return x.saw(0, 1);
+        }
     }
 
     private static void whatIsNoAct() {
