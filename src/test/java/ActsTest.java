@@ -126,16 +126,22 @@ public final class ActsTest {
         x.winter(1);
         Check.rungs(x, 0, Check.repeat("r", 32));
         Check.row("its top is painted", new int[] {x.paint(0, 31), x.rung(0, 31), x.ladder(0, 2), x.paint(0, 32)}, 0, 2, 1, -1);
-        RungMoney y = tallest(6);
-        y.winter(7);
-        int seed = 7;
+        for (int seed = 0; seed < 20; seed++) {
+            tallestInWinter(seed);
+        }
+    }
+
+    private static void tallestInWinter(int seed) {
+        RungMoney x = tallest(6);
+        x.winter(seed);
+        int drawn = seed;
         String want = "";
         for (int k = 0; k < 33; k++) {
-            seed = seed * 1103515245 + 12345;
-            want += (seed >>> 8) % 12 < 6 ? 'r' : 's';
+            drawn = drawn * 1103515245 + 12345;
+            want += (drawn >>> 8) % 12 < 6 ? 'r' : 's';
         }
-        Check.rungs(y, 0, want.substring(0, 32));
-        Check.rungs(y, 3, want.substring(32));
+        Check.rungs(x, 0, want.substring(0, 32));
+        Check.rungs(x, 3, want.substring(32));
     }
 
     private static void burn() {
