@@ -630,28 +630,34 @@ public final class RungMoney {
                 kind = BAD;
             } else if (next >= tape.size) {
                 kind = END;
-            } else if (isLetter(tape.bytes[next]) || isDigit(tape.bytes[next])) {
-                readRun();
             } else {
-                sign = tape.bytes[next];
-                kind = SIGN;
-                next++;
+                readRun();
+                if (next == at) {
+                    sign = tape.bytes[next];
+                    kind = SIGN;
+                    next++;
+                }
             }
         }
 
+        /** Letters and digits as far as they go, of which a WORD or a NUMBER may be. */
         private void readRun() {
             int letters = 0;
             int digits = 0;
-            while (next < tape.size && (isLetter(tape.bytes[next]) || isDigit(tape.bytes[next]))) {
+            boolean goesOn = true;
+            while (goesOn && next < tape.size) {
                 int c = tape.bytes[next];
-                if (isLetter(c)) {
-                    letters++;
+                if (c >= 'a' && c <= 'z') {
                     word = word * LETTERS + (c - 'a' + 1);
-                } else {
-                    digits++;
+                    letters++;
+                    next++;
+                } else if (c >= '0' && c <= '9') {
                     number = number * 10 + (c - '0');
+                    digits++;
+                    next++;
+                } else {
+                    goesOn = false;
                 }
-                next++;
             }
             if (digits == 0 && letters <= WORD_MOST) {
                 kind = WORD;
@@ -665,14 +671,6 @@ public final class RungMoney {
 
         private static boolean isBlank(int c) {
             return c == 32 || c == 10;
-        }
-
-        private static boolean isLetter(int c) {
-            return c >= 'a' && c <= 'z';
-        }
-
-        private static boolean isDigit(int c) {
-            return c >= '0' && c <= '9';
         }
 
         /** The fault is at this token: false, for the caller to hand on. */
