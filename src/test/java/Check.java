@@ -101,8 +101,10 @@ final class Check {
     /** Of a ladder its rungs as they would be told in a town. */
     static String rungs(RungMoney x, int l) {
         StringBuilder text = new StringBuilder();
-        for (int k = 0; k < 33 && x.rung(l, k) != RungMoney.NONE; k++) {
-            text.append("srp".charAt(x.rung(l, k)));
+        int kind = x.rung(l, 0);
+        for (int k = 1; k < 33 && kind != RungMoney.NONE; k++) {
+            text.append("srp".charAt(kind));
+            kind = x.rung(l, k);
         }
         return text.toString();
     }
@@ -112,6 +114,50 @@ final class Check {
         if (!got.equals(want)) {
             wrong++;
             System.out.println("ladder " + l + " has the rungs " + got + ", due are " + want);
+        }
+    }
+
+    /** All that a caller can see of an object without changing it, but for what can be undone. */
+    static String state(RungMoney x) {
+        StringBuilder text = new StringBuilder(allSo(x));
+        text.append("/ fault ").append(x.fault()).append(" tape ").append(x.count(3));
+        text.append(" price ").append(x.given()).append(' ').append(x.cut()).append(" wood ").append(x.wood());
+        text.append(" told");
+        for (int what = 0; what < 4; what++) {
+            text.append(' ').append(x.told(what));
+        }
+        int said = x.said(RungMoney.NONE);
+        text.append(" said ").append(said).append(':');
+        for (int k = 0; k < said; k++) {
+            text.append(' ').append(x.said(k));
+        }
+        return text.toString();
+    }
+
+    /** The town and all that is so in it. */
+    static String allSo(RungMoney x) {
+        StringBuilder text = new StringBuilder();
+        int ladders = x.count(1);
+        for (int l = 0; l < ladders; l++) {
+            text.append(rungs(x, l)).append(' ').append(x.ladder(l, 0)).append('/').append(x.ladder(l, 5)).append(' ');
+        }
+        int men = x.count(0);
+        for (int m = 0; m < men; m++) {
+            for (int o = 0; o < men; o++) {
+                text.append(m == o ? "-" : x.debt(m, o)).append(' ');
+            }
+            text.append("pays ").append(x.man(m, 6)).append(' ');
+        }
+        for (int what = 0; what < 8; what++) {
+            text.append(x.now(what)).append(' ');
+        }
+        return text.append("rot ").append(x.count(2)).toString();
+    }
+
+    static void same(String what, String got, String want) {
+        if (!got.equals(want)) {
+            wrong++;
+            System.out.println(what + ": it is " + got + ", due is " + want);
         }
     }
 
