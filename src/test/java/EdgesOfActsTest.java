@@ -222,8 +222,11 @@ public final class EdgesOfActsTest {
             Check.due("saw above " + k, x.saw(0, k), 0);
             Check.rungs(x, 0, rungs.substring(0, k));
             Check.rungs(x, 4, rungs.substring(k));
+            int below = rungs.substring(0, k).replace("r", "").length();
+            Check.row("what they look", new int[] {x.ladder(0, 2), x.ladder(4, 2)}, below, 25 - below);
             Check.due("spliced again", x.splice(0, 4), 0);
             Check.rungs(x, 0, rungs);
+            Check.row("what it looks, is worth", new int[] {x.ladder(0, 2), x.ladder(0, 3)}, 25, 13);
         }
     }
 
@@ -472,6 +475,10 @@ public final class EdgesOfActsTest {
         RungMoney y = tallest();
         y.taxes();
         Check.rungs(y, 0, "sp".repeat(12) + "rrrrrrr");
+        Check.row("what it looks, is worth", new int[] {y.ladder(0, 2), y.ladder(0, 3)}, 24, 12);
+        RungMoney full = Check.townOf("man a;" + "ladder a sp;".repeat(16));
+        Check.row("of sixteen", new int[] {full.taxes(), full.now(2), full.now(4), full.taxes(), full.now(2), full.now(1)},
+                0, 16, 16, 0, 32, 0);
     }
 
     private static int drawOf12(int x) {
@@ -483,6 +490,7 @@ public final class EdgesOfActsTest {
         winterRot0And12();
         winterDraws();
         winterOfNoRungs();
+        winterOfSixteen();
     }
 
     /** "1: there were 99" */
@@ -538,6 +546,37 @@ public final class EdgesOfActsTest {
         Check.due("winters", y.now(0), 1);
     }
 
+    /** Rungs of all LADDERS, as they stand one behind the other, behind some WINTERS. */
+    private static String behind(String rungs, int winters, int rot, int seed) {
+        char[] c = rungs.toCharArray();
+        int x = seed;
+        for (int i = 0; i < winters * c.length; i++) {
+            if (c[i % c.length] == 's') {
+                x = x * 1103515245 + 12345;
+                c[i % c.length] = drawOf12(x) < rot ? 'r' : 's';
+            }
+        }
+        return new String(c);
+    }
+
+    /** "LADDER by LADDER, from the foot": as many as there can be, and none that is gone or of the TOWN ahead */
+    private static void winterOfSixteen() {
+        RungMoney x = Check.townOf("man a;" + "ladder a sspssrssssss;".repeat(16) + "rot 2;");
+        x.drawn(2, 17);
+        String want = behind("sspssrssssss".repeat(16), 2, 2, 17);
+        for (int l = 0; l < 16; l++) {
+            Check.rungs(x, l, want.substring(12 * l, 12 * l + 12));
+        }
+        RungMoney y = Check.townOf("man a;" + "ladder a ssssssssssss;".repeat(16) + "rot 2;");
+        Check.town(y, "man a;ladder a ssssssss;ladder a ssssss;ladder a ssssssss;rot 2;");
+        y.burn(1);
+        y.drawn(3, 18);
+        want = behind("s".repeat(16), 3, 2, 18);
+        Check.rungs(y, 0, want.substring(0, 8));
+        Check.rungs(y, 1, "");
+        Check.rungs(y, 2, want.substring(8));
+    }
+
     // ---- promise 19 ----
 
     private static void strike() {
@@ -545,6 +584,7 @@ public final class EdgesOfActsTest {
         strikeOnlyChanges();
         strikeAllAway();
         strikeAbove250();
+        strikeByNumbers();
     }
 
     /** "-2: nothing changes" */
@@ -576,6 +616,18 @@ public final class EdgesOfActsTest {
         RungMoney x = Check.townOf("man a;man b;man c;debt a b 250;debt b c 250;debt a c 250;");
         Check.row("strike", new int[] {x.strike(), x.debt(0, 1), x.debt(1, 2), x.debt(0, 2), x.stands(0), x.stands(1),
             x.stands(2)}, 250, 0, 0, 500, -500, 0, 500);
+    }
+
+    /** "MEN by numbers who owe more than they are owed pay MEN by numbers who are owed more": the first and the last */
+    private static void strikeByNumbers() {
+        RungMoney x = Check.townOf("man a;man b;man c;man d;man e;man f;debt f b 3;debt e a 4;debt f a 1;debt b e 1;");
+        // a 5, b 2 are owed more; e 3, f 4 owe more
+        Check.row("strike", new int[] {x.struck(), x.strike(), x.debt(4, 0), x.debt(4, 1), x.debt(5, 0), x.debt(5, 1), x.now(3)},
+                7, 2, 3, 0, 2, 2, 7);
+        RungMoney y = Check.townOf("man a;man b;man c;man d;man e;man f;debt a f 4;debt a e 1;debt c f 5;debt b c 3;");
+        // a 5, b 3, c 2 owe more; e 1, f 9 are owed more
+        Check.row("strike", new int[] {y.strike(), y.debt(0, 4), y.debt(0, 5), y.debt(1, 5), y.debt(2, 5), y.debt(1, 2)},
+                3, 1, 4, 3, 2, 0);
     }
 
     // ---- promise 36 ----
@@ -613,16 +665,9 @@ public final class EdgesOfActsTest {
         for (int seed : new int[] {3, -3, Integer.MAX_VALUE}) {
             RungMoney x = Check.townOf("man a;man b;ladder a ssssssssssss;ladder b ssssssssssss;rot 1;");
             x.drawn(30, seed);
-            char[] rungs = "s".repeat(24).toCharArray();
-            int drawn = seed;
-            for (int i = 0; i < 30 * 24; i++) {
-                if (rungs[i % 24] == 's') {
-                    drawn = drawn * 1103515245 + 12345;
-                    rungs[i % 24] = drawOf12(drawn) < 1 ? 'r' : 's';
-                }
-            }
-            Check.rungs(x, 0, new String(rungs, 0, 12));
-            Check.rungs(x, 1, new String(rungs, 12, 12));
+            String want = behind("s".repeat(24), 30, 1, seed);
+            Check.rungs(x, 0, want.substring(0, 12));
+            Check.rungs(x, 1, want.substring(12));
         }
     }
 
@@ -633,6 +678,8 @@ public final class EdgesOfActsTest {
         undoEightAtMost();
         undoRoundAndRound();
         undoWhatWasDone();
+        undoOneByOne();
+        undoBehindRefused();
         undoLedgerAsOne();
         undoLeavesTheRest();
     }
@@ -706,6 +753,37 @@ public final class EdgesOfActsTest {
             not[i].answer(x);
         }
         Check.row("the latest that was done is undone", new int[] {x.undo(), x.now(0)}, 0, 0);
+    }
+
+    /** Each is undone to what was ahead of it, the latest first. */
+    private static void undoOneByOne() {
+        Act[] acts = {y -> y.saw(0, 3), y -> y.burn(2), y -> y.paint(1, 0), y -> y.climb(0, 3) - 1, y -> y.splice(0, 1),
+            y -> y.winter(3), y -> y.pay(0, 3, 1), RungMoney::taxes};
+        String town = "man a;man b;ladder a ssps;ladder a r;ladder b s;debt a b 9;rot 2;";
+        RungMoney x = Check.townOf(town);
+        RungMoney seen = Check.townOf(town);
+        String[] before = new String[acts.length];
+        for (int i = 0; i < acts.length; i++) {
+            before[i] = Check.allSo(seen);
+            Check.row("act " + i, new int[] {acts[i].answer(x), acts[i].answer(seen)}, 0, 0);
+        }
+        for (int i = acts.length - 1; i >= 0; i--) {
+            Check.due("undo of act " + i, x.undo(), i);
+            Check.same("as ahead of act " + i, Check.allSo(x), before[i]);
+        }
+    }
+
+    /** "8 at most are kept": what is refused when there are 8 takes none of their places */
+    private static void undoBehindRefused() {
+        RungMoney x = Check.townOf("man a;ladder a ssssssssssss;");
+        for (int i = 0; i < 9; i++) {
+            x.taxes();
+        }
+        Check.row("refused", new int[] {x.burn(1), x.saw(0, 0), x.paint(0, 0), x.climb(1, 0), x.splice(0, 0), x.strike(),
+            x.drawn(0, 1), Check.ledger(x, 1, "?")}, -1, 2, 3, -1, 1, -2, -1, -2);
+        for (int i = 7; i >= 0; i--) {
+            Check.row("undo", new int[] {x.undo(), x.ladder(0, 1)}, i, 11 - i);
+        }
     }
 
     /** "a LEDGER that was lived is undone" */

@@ -172,6 +172,11 @@ public final class EdgesOfAnswersTest {
         Check.same("behind it", Check.allSo(x), "0 0 0 0 0 0 0 0 rot 1");
         Check.due("no SENTENCE", x.said(-1), -1);
         Check.due("no names", Check.sentence(x, "of a"), -4);
+        // nor is anything left of what was only judged
+        RungMoney y = Check.townOf("man a;man b;ladder a ssss;ladder a s;debt a b 5;rot 4;");
+        Check.ledger(y, 0, "a pays 1 b;saws 0 1;taxes;winter 3;");
+        Check.town(y, "man c;ladder c s;");
+        Check.same("behind one that was judged", Check.allSo(y), "s 0/1 - pays 0 0 1 0 0 1 1 0 0 rot 1");
     }
 
     /** "a ledger() of -1000 leaves it); 0 without one and ahead of any" */
@@ -463,6 +468,12 @@ public final class EdgesOfAnswersTest {
         RungMoney full = Check.townOf("man a;" + "ladder a ssssssssssss;".repeat(16));
         Check.row("all there can be", new int[] {full.height(12), full.height(13), full.height(192), full.height(193)},
                 1, 2, 16, -1);
+        RungMoney low = Check.townOf("man a;ladder a s;ladder a r;ladder a s;");
+        Check.row("one RUNG each", new int[] {low.height(1), low.height(2), low.height(3)}, 1, 2, -1);
+        RungMoney tall = Check.townOf("man a;ladder a ssssssssssss;ladder a ssssssssssss;ladder a ssssssss;ladder a s;");
+        tall.splice(0, 1);
+        tall.splice(0, 2);
+        Check.row("the tallest", new int[] {tall.height(32), tall.height(33), tall.height(34), tall.bear()}, 1, 2, -1, 9);
     }
 
     /** "LADDERS that BEAR, as bits." */
@@ -777,6 +788,8 @@ public final class EdgesOfAnswersTest {
         Check.row("all sound ones rot", new int[] {x.odds(0, 1, 9, 1), x.odds(0, 2, 9, 1), x.odds(1, 1, 9, 1)}, 9, 0, 9);
         RungMoney y = Check.townOf("man a;ladder a sspr;rot 0;");
         Check.row("none rots", new int[] {y.odds(0, 3, 30, 1), y.odds(0, 4, 30, 1)}, 30, 0);
+        RungMoney full = Check.townOf("man a;" + "ladder a ssssssssssss;".repeat(16) + "rot 0;");
+        Check.row("of sixteen", new int[] {full.odds(0, 192, 30, 1), full.odds(0, 193, 30, 1)}, 30, 0);
     }
 
     private static String looksBehindFive(String rungs, int rot, int seed) {
@@ -864,6 +877,10 @@ public final class EdgesOfAnswersTest {
             Check.due("the first LINE", Check.ledger(x, 1, WRONGS[i] + ";taxes;"), 0);
             Check.row("lived that far", new int[] {x.now(0), x.now(2), x.told(0), x.told(1)}, 2, 0, WHY[i], 0);
         }
+        RungMoney z = Check.townOf("man a;man b;man c;ladder c ss;ladder b s;debt b a 1;debt c b 3;");
+        Check.due("by their names", Check.ledger(z, 1, "b pays 1 a;a climbs 0;c pays 0 b;"), -1);
+        Check.row("who paid", new int[] {z.man(0, 6), z.man(1, 6), z.man(2, 6), z.ladder(0, 0), z.ladder(1, 0), z.debt(2, 1)},
+                0, 1, 1, 1, 0, 1);
         RungMoney y = wrongTown();
         Check.due("the fortieth LINE", Check.ledger(y, 1, "winter 1;".repeat(39) + "burns 3;"), 39);
         Check.row("lived that far", new int[] {y.now(0), y.told(1)}, 39, 39);

@@ -444,6 +444,7 @@ public final class EdgesOfTextsTest {
         neverEmpty();
         twentyOnes();
         eightWithin();
+        whatBinds();
         goneAre0Long();
         bearsIsThere();
         anyNumber();
@@ -484,6 +485,15 @@ public final class EdgesOfTextsTest {
         sentenceWell("(gone)" + " or(gone)".repeat(9), 20);
         sentenceFault("(gone)" + " or(gone)".repeat(10), 90, 4);
         sentenceFault("gone or" + "(gone)or".repeat(9) + "(gone)", 80, 4);
+        // each of them counts
+        RungMoney x = Check.townOf("man a;ladder a s;ladder a ss;ladder a sss;");
+        String nineteen = "gone or ".repeat(9) + "gone and gone or ".repeat(4) + "gone and gone";
+        Check.due("twenty", Check.sentence(x, "long=2 or " + nineteen), 20);
+        Check.row("the first", new int[] {x.said(-1), x.said(0)}, 1, 1);
+        Check.due("twenty", Check.sentence(x, nineteen + " or long=3"), 20);
+        Check.row("the last", new int[] {x.said(-1), x.said(0)}, 1, 2);
+        Check.due("twenty", Check.sentence(x, "bears and ".repeat(19) + "long=1"), 20);
+        Check.row("the last of all", new int[] {x.said(-1), x.said(0)}, 1, 0);
     }
 
     /** "8 within one another" */
@@ -498,6 +508,28 @@ public final class EdgesOfTextsTest {
         sentenceFault("((((((( gone or of a and not long<1 )))))))", 29, 4);
         // those that stand side by side are not within one another
         sentenceWell("(((((((gone)))))))or(((((((gone)))))))and gone", 17);
+        RungMoney x = Check.townOf("man a;ladder a s;ladder a ss;");
+        Check.sentence(x, "not ".repeat(7) + "long=1");
+        Check.row("seven times not", new int[] {x.said(-1), x.said(0)}, 1, 1);
+        Check.sentence(x, "(((((((long=1)))))))");
+        Check.row("within brackets", new int[] {x.said(-1), x.said(0)}, 1, 0);
+    }
+
+    /** "COND: ALL { 'or' ALL }. ALL: ONE { 'and' ONE }. ONE: 'not' ONE": what binds what */
+    private static void whatBinds() {
+        RungMoney x = Check.townOf("man a;ladder a s;ladder a ss;ladder a sss;ladder a ssss;");
+        String[] texts = {"long=1 or long=2 and long=3", "long=1 and long=2 or long=3", "(long=1 or long=2)and long=2",
+            "not long=1 and long<3", "not(long=1 and long<3)", "long=1 or long=2 or long=3", "not not long=4",
+            "not long=1 or long=1", "long>1 and long<4 and not long=2"};
+        int[] bits = {1, 4, 2, 2, 14, 7, 8, 15, 4};
+        for (int i = 0; i < texts.length; i++) {
+            Check.sentence(x, texts[i]);
+            int said = 0;
+            for (int k = 0; k < Integer.bitCount(bits[i]); k++) {
+                said |= 1 << x.said(k);
+            }
+            Check.row("said of '" + texts[i] + "'", new int[] {x.said(-1), said}, Integer.bitCount(bits[i]), bits[i]);
+        }
     }
 
     /** "It is said of LADDERS (gone ones are 0 long)." */
