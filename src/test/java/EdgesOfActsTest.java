@@ -228,6 +228,12 @@ public final class EdgesOfActsTest {
             Check.rungs(x, 0, rungs);
             Check.row("what it looks, is worth", new int[] {x.ladder(0, 2), x.ladder(0, 3)}, 25, 13);
         }
+        // the 32nd is painted
+        RungMoney y = Check.townOf("man a;ladder a rrrrrrrrrrrr;ladder a rrrrrrrrrrrr;ladder a rrrrrrrp;");
+        y.splice(0, 1);
+        y.splice(0, 2);
+        Check.row("the one above 16", new int[] {y.saw(0, 16), y.ladder(3, 1), y.ladder(3, 2), y.rung(3, 15), y.suspect()},
+                0, 16, 1, 2, 3);
     }
 
     // ---- promise 13 ----

@@ -472,6 +472,20 @@ public final class EdgesOfTextsTest {
         sentenceFault("(gone", 5, 1);
         sentenceFault("gone)", 4, 1);
         sentenceFault("gone gone", 5, 1);
+        for (String what : new String[] {"long", "looks", "worth", "number"}) {
+            int end = what.length();
+            sentenceFault(what, end, 1);
+            sentenceFault(what + " and gone", end + 1, 1);
+            sentenceFault("(" + what + ")", end + 1, 1);
+            sentenceFault(what + "<", end + 1, 1);
+            sentenceFault(what + "< or gone", end + 2, 1);
+            sentenceFault("(" + what + "<)", end + 2, 1);
+            sentenceFault(what + " 5", end + 1, 1);
+            sentenceFault(what + "<=5", end + 1, 1);
+        }
+        sentenceFault("of", 2, 1);
+        sentenceFault("of and gone", 3, 1);
+        sentenceFault("(of)", 3, 1);
     }
 
     /** "20 ONES" */
