@@ -761,6 +761,7 @@ public final class EdgesOfAnswersTest {
         oddsAtLeast();
         oddsSeedsWrap();
         oddsChangeNothing();
+        oddsNear99();
     }
 
     /** "n (1 to 30) .. w (0 to 500) .. NONE: no such ones" */
@@ -824,6 +825,38 @@ public final class EdgesOfAnswersTest {
         x.winter(3);
         same("odds", x, y -> y.odds(0, 0, 30, 7), 30);
         Check.row("undo() of the one WINTER", new int[] {x.undo(), x.now(0)}, 0, 0);
+    }
+
+    /** "5 WINTERS DRAWN from now on": as far as there may be 99 */
+    private static void oddsNear99() {
+        int kind = 1;
+        while (soundBehind(1, kind) == 0) {
+            kind++;
+        }
+        for (int left = 0; left < 7; left++) {
+            RungMoney x = Check.townOf("man a;ladder a s;rot 3;");
+            for (int i = left; i < 99; i++) {
+                x.winter(kind);
+            }
+            int times = 0;
+            for (int seed = 1; seed <= 30; seed++) {
+                times += soundBehind(Math.min(left, 5), seed);
+            }
+            Check.row("odds, " + left + " more WINTERS may come", new int[] {x.ladder(0, 3), x.now(0), x.odds(0, 1, 30, 1)},
+                    1, 99 - left, times);
+        }
+    }
+
+    /** Whether the one RUNG is sound behind some WINTERS by 'rot' 3: 1 or 0. */
+    private static int soundBehind(int winters, int seed) {
+        int x = seed;
+        for (int i = 0; i < winters; i++) {
+            x = x * 1103515245 + 12345;
+            if ((x >>> 8) % 12 < 3) {
+                return 0;
+            }
+        }
+        return 1;
     }
 
     // ---- promises 38 and 39 ----
